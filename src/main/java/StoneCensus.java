@@ -784,7 +784,6 @@ public final class StoneCensus {
         boolean readAll(Sheet sheet) {
             sheet.clear();
             fault = 0;
-            faultPlace = NONE;
             at = 0;
             advance();
             for (int line = 0; line < MOST_BYTES && kind != END; line++) {
@@ -1561,6 +1560,8 @@ public final class StoneCensus {
         int telling;
         /** From this house on no house is the last of a set that is told of. */
         int firstFree;
+        /** In how many ways the heads of the houses from there on can be. */
+        int ways;
         boolean ready;
 
         void forget() {
@@ -1580,7 +1581,8 @@ public final class StoneCensus {
             for (int house = 0; house < MOST_HOUSES; house++) {
                 Arrays.fill(tally[house], 0);
             }
-            total = countFrom(0);
+            ways = 1 << 3 * (houses - firstFree);
+            total = firstFree == 0 ? ways : countFrom(0);
             for (int house = firstFree; house < houses; house++) {
                 Arrays.fill(tally[house], total / 8);
             }
@@ -1615,15 +1617,15 @@ public final class StoneCensus {
 
         /** With the sums of the houses before this one set. */
         private int countFrom(int house) {
-            if (house >= firstFree) {
-                return 1 << 3 * (houses - firstFree);
-            }
             int all = 0;
             int[] tallied = tally[house];
             int high = highest(house);
             for (int heads = lowest(house); heads <= high; heads++) {
-                setHeads(house, heads);
-                int found = countFrom(house + 1);
+                int found = ways;
+                if (house + 1 < firstFree) {
+                    setHeads(house, heads);
+                    found = countFrom(house + 1);
+                }
                 tallied[heads] += found;
                 all += found;
             }
@@ -1648,12 +1650,9 @@ public final class StoneCensus {
             return high;
         }
 
-        /** The last house's sums are asked for by none. */
         private void setHeads(int house, int heads) {
-            if (house + 1 < firstFree) {
-                for (int rest = 0; rest < 1 << house; rest++) {
-                    sums[rest | 1 << house] = sums[rest] + heads;
-                }
+            for (int rest = 0; rest < 1 << house; rest++) {
+                sums[rest | 1 << house] = sums[rest] + heads;
             }
         }
 
@@ -1728,7 +1727,9 @@ public final class StoneCensus {
             }
             int high = highest(house);
             for (int heads = lowest(house); heads <= high; heads++) {
-                setHeads(house, heads);
+                if (house + 1 < firstFree) {
+                    setHeads(house, heads);
+                }
                 gatherFrom(house + 1, code | heads << 3 * house);
             }
         }

@@ -84,7 +84,8 @@ public final class ActsTest {
         check.due("more than are there", x.steal(0, 91), NONE);
         check.due("steal all", x.steal(0, 90), 0);
         check.due("acts", x.about(3), 3);
-        check.due("the other bowl", x.house(1, 3), 99);
+        check.due("steal 99", x.steal(1, 99), 0);
+        check.due("acts", x.about(3), 4);
     }
 
     private static void summers() {
@@ -120,6 +121,19 @@ public final class ActsTest {
         check.due("a summer without houses", x.summer(), 0);
         check.due("its seed", x.about(2), 208);
         check.due("its year", x.about(1), 1);
+    }
+
+    /** More calls than an object is used for: the document's end of summers can't be reached by fewer. */
+    private static void lastSummer() {
+        StoneCensus x = Texts.told("house a at 0 heads 1;");
+        for (int i = 0; i < 998; i++) {
+            x.summer();
+        }
+        check.due("the 999th", x.summer() >= 0, true);
+        check.due("the year", x.about(1), 999);
+        check.due("behind 999", x.summer(), NONE);
+        check.due("nothing is done", x.about(1), 999);
+        check.due("but foreseen", x.will(0, 1), 1);
     }
 
     private static void growth() {
@@ -267,6 +281,7 @@ public final class ActsTest {
         thefts();
         summers();
         magpies();
+        lastSummer();
         growth();
         undoing();
         fortyAreKept();

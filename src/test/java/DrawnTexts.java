@@ -7,6 +7,14 @@ final class DrawnTexts {
         "and", "not", "hidden", "stones", "year", "zed", "abcdefgh", "abcdefghi", ";", "(", ")", "<", ">", "=", "+", "-",
         "*", "/", "%", "0", "7", "10", "61", "999", "1000", "9999", "10000", "3x", "$", "A", "\t", "\u0000", "\u00ff"};
 
+    /** Laws of which something comes: drawn ones often answer the same for all. */
+    private static final String[][] SENSIBLE = {
+        {"spit", "heads-hidden", "heads-hidden+jam", "heads*2-hidden", "heads+hidden*2", "heads-hidden+year%3",
+            "(heads-hidden)*(habit+1)", "(heads-hidden)*11+jam*7+habit*5"},
+        {"tax", "stones*stones", "stones*2+jam", "(stones>2)*5+stones", "stones*(year+1)", "(stones%3)*4", "10-stones",
+            "stones%4*(stones%5)+1"},
+        {"grow", "1", "heads<3", "stones-heads", "(stones>5)*2-1", "0-year%2", "jam-habit", "(heads=7)*(0-3)+1"}};
+
     private final Random draws;
     private int units;
 
@@ -62,6 +70,12 @@ final class DrawnTexts {
 
     private void law(StringBuilder s, String word) {
         s.append(word).append(gap());
+        for (String[] laws : SENSIBLE) {
+            if (laws[0].equals(word) && below(2) == 0) {
+                s.append(laws[1 + below(laws.length - 1)]).append(';');
+                return;
+            }
+        }
         units = 2 + below(29);
         if (below(6) == 0) {
             units = 2;

@@ -41,6 +41,11 @@ public final class PlansTest {
         leaveOf(x, 7, 2, 1, 1);
         leaveOf(x, 4, 3, 1, 2);
         leaveOf(x, 3, 3, 2, 1);
+        x = Texts.told("house a at 0 heads 3;house b at 0 heads 3;house c at 0 heads 3;tax stones*stones;");
+        leaveOf(x, 17, 2, 0, 1, 1);
+        leaveOf(x, 14, 3, 0, 1, 2);
+        leaveOf(x, 12, 3, 1, 1, 1);
+        leaveOf(x, 0, 9, 3, 3, 3);
         x = Texts.told("house a at 0 heads 7;tax (stones=3)*5+(stones<3)*9+(stones>3)*9;");
         leaveOf(x, 5, 4, 4);
         leaveOf(x, 4, NONE);
@@ -52,7 +57,12 @@ public final class PlansTest {
         leaveOf(x, 2, NONE);
         x.summer();
         check.due("least by the year", x.least(), 4);
-        x = Texts.told("house a at 0 heads 5;house b at 0 heads 2 jam 3;");
+        x = Texts.told("house a at 0 heads 7;house b at 0 heads 7;house c at 0 heads 7;house d at 0 heads 7;"
+            + "house e at 0 heads 7;tax stones>0;");
+        leaveOf(x, 4, 7, 0, 0, 0, 0, 7);
+        leaveOf(x, 0, 35, 7, 7, 7, 7, 7);
+        check.due("least of 35", x.least(), 0);
+        Texts.tell(x, "house a at 0 heads 5;house b at 0 heads 2 jam 3;");
         leaveOf(x, 9999, NONE);
         check.due("least, if one shows whatever is hidden", x.least(), NONE);
         x = new StoneCensus();

@@ -164,6 +164,29 @@ public final class ReportsTest {
         check.lying("no row", x);
     }
 
+    /** What was found for one province says nothing of the next, nor what was found of a report that was another. */
+    private static void toldAnew() {
+        StoneCensus x = houses(2);
+        x.report(1, 3, 3);
+        check.due("truths", x.truths(0), 8);
+        check.due("tells", x.tells(1, 0), 2);
+        x.liars(0);
+        check.lying("liars", x, 3, 0);
+        Texts.tell(x, "house a at 0 heads 1;house b at 0 heads 1;");
+        check.due("truths of none", x.truths(0), 64);
+        x.report(2, 5, 6);
+        check.due("truths", x.truths(0), 16);
+        check.due("tells", x.tells(1, 0), 3);
+        x.liars(0);
+        check.lying("liars", x, 0, 5);
+        Texts.tell(x, "house a at 0 heads 1;house b at 0 heads 1;");
+        x.report(2, 7, 7);
+        check.due("truths", x.truths(0), 8);
+        x.liars(0);
+        check.lying("liars", x, 0, 7);
+        check.due("odds", x.odds(1, 7, 1, 0), 1);
+    }
+
     private static void knocking() {
         StoneCensus x = houses(3);
         check.due("all alike: the first", x.knock(0, 0), 0);
@@ -244,6 +267,7 @@ public final class ReportsTest {
         knownInTwoTimes();
         truthsAndRanges();
         lying();
+        toldAnew();
         knocking();
         telling();
         odds();

@@ -114,6 +114,10 @@ public final class SeatsTest {
         x = bowls(2, 0, 6, 6);
         check.due("loss 0", x.loss(0), 4);
         check.due("loss 1", x.loss(1), 0);
+        // Of 19 seats 1, 8, 10; of 20 seats 0, 9, 11.
+        x = bowls(3, 55, 67);
+        check.due("loss 0", x.loss(0), 20);
+        check.due("loss 1", x.loss(1), 0);
         x = bowls(1, 1);
         check.due("no loss", x.loss(0), NONE);
         check.due("no loser", x.loss(1), NONE);
