@@ -61,9 +61,8 @@ public final class StoneCensus {
     private final int[] trial;
     private final History history;
     private final Hiding hiding;
-    private final Counters counters;
+    private final Road road;
     private final Seating seating;
-    private final Hunt hunt;
     private final Reports reports;
     private final Truths known;
     private final Liars accused;
@@ -79,9 +78,8 @@ public final class StoneCensus {
         trial = new int[ROW];
         history = new History();
         hiding = new Hiding();
-        counters = new Counters();
+        road = new Road();
         seating = new Seating();
-        hunt = new Hunt();
         reports = new Reports();
         known = new Truths();
         accused = new Liars();
@@ -282,10 +280,10 @@ public final class StoneCensus {
         if (!isWithin(noon, 0, MOST_NOON)) {
             return NONE;
         }
-        counters.look(sheet, now);
-        int fewest = counters.fewestBy(noon);
+        road.look(sheet, now);
+        int fewest = road.fewestBy(noon);
         if (fewest != NONE) {
-            lay(counters.who, sheet.count);
+            lay(road.who, sheet.count);
         }
         return fewest;
     }
@@ -294,8 +292,8 @@ public final class StoneCensus {
         if (!isWithin(n, 1, MOST_HOUSES) || sheet.count == 0) {
             return NONE;
         }
-        counters.look(sheet, now);
-        return counters.firstNoon(n);
+        road.look(sheet, now);
+        return road.firstNoon(n);
     }
 
     public int missed(int sum) {
@@ -367,10 +365,10 @@ public final class StoneCensus {
         if (sheet.count == 0) {
             return NONE;
         }
-        hunt.look(sheet);
-        int knocks = hunt.plan();
-        lay(hunt.knocks, knocks);
-        return knocks;
+        road.look(sheet, now);
+        int fewest = road.planKnocks();
+        lay(road.knocks, fewest);
+        return fewest;
     }
 
     public int marks(int marked, int seen, int again) {
@@ -935,8 +933,9 @@ public final class StoneCensus {
         }
 
         private boolean standsForItself() {
-            return valueNamed() != NONE || isWord("house") || isWord("at") || isWord("spit") || isWord("tax")
-                || isWord("grow") || isWord("draw") || isWord("or") || isWord("and") || isWord("not");
+            return isWord("house") || isWord("at") || isWord("heads") || isWord("jam") || isWord("habit")
+                || isWord("spit") || isWord("tax") || isWord("grow") || isWord("draw") || isWord("or")
+                || isWord("and") || isWord("not") || isWord("hidden") || isWord("stones") || isWord("year");
         }
 
         private long takeName(Sheet sheet) {
@@ -1223,13 +1222,19 @@ public final class StoneCensus {
         }
     }
 
-    /** Who counts which bowls by noon. */
-    private static final class Counters {
-        final int[] who = new int[MOST_HOUSES];
+    /** The houses by their places: who counts which bowls by noon, and where to knock for one who moves each night. */
+    private static final class Road {
+        final int[] places = new int[MOST_HOUSES];
         final int[] bowls = new int[MOST_HOUSES];
+        /** By house: which counter. */
+        final int[] who = new int[MOST_HOUSES];
         final int[] furthest = new int[MOST_HOUSES];
         final int[] counted = new int[MOST_HOUSES];
-        final int[] places = new int[MOST_HOUSES];
+        /** By house: the houses next to it, as bits. */
+        final int[] beside = new int[MOST_HOUSES];
+        /** By the set of houses in which he may be: how many knocks find him. */
+        final int[] steps = new int[1 << MOST_HOUSES];
+        final int[] knocks = new int[MOST_LYING];
         int count;
 
         void look(Sheet sheet, int[] row) {
@@ -1296,6 +1301,90 @@ public final class StoneCensus {
         private void putBack(int counter, int house, int before) {
             furthest[counter] = before;
             counted[counter] -= bowls[house];
+        }
+
+        int planKnocks() {
+            findNeighbours();
+            countSteps();
+            int maybe = (1 << count) - 1;
+            int used = 0;
+            while (maybe != 0 && used < MOST_LYING) {
+                int house = firstOnTheWay(maybe);
+                knocks[used] = house;
+                used++;
+                maybe = afterKnock(maybe, house);
+            }
+            return used;
+        }
+
+        private void findNeighbours() {
+            for (int house = 0; house < count; house++) {
+                int below = NONE;
+                int above = NONE;
+                for (int other = 0; other < count; other++) {
+                    if (isBefore(other, house) && (below == NONE || isBefore(below, other))) {
+                        below = other;
+                    }
+                    if (isBefore(house, other) && (above == NONE || isBefore(other, above))) {
+                        above = other;
+                    }
+                }
+                beside[house] = bitOf(below) | bitOf(above);
+                if (count == 1) {
+                    beside[house] = bitOf(house);
+                }
+            }
+        }
+
+        private boolean isBefore(int one, int other) {
+            int apart = places[one] - places[other];
+            return apart < 0 || apart == 0 && one < other;
+        }
+
+        private static int bitOf(int house) {
+            return house == NONE ? 0 : 1 << house;
+        }
+
+        /** How many knocks each set needs; each pass knows at least the sets that need one more. */
+        private void countSteps() {
+            Arrays.fill(steps, FAR);
+            steps[0] = 0;
+            boolean changed = true;
+            for (int pass = 0; pass < 1 << MOST_HOUSES && changed; pass++) {
+                changed = false;
+                for (int set = 1; set < 1 << count; set++) {
+                    int best = fewestFrom(set);
+                    changed |= best < steps[set];
+                    steps[set] = best;
+                }
+            }
+        }
+
+        private int fewestFrom(int set) {
+            int best = steps[set];
+            for (int house = 0; house < count; house++) {
+                best = Math.min(best, steps[afterKnock(set, house)] + 1);
+            }
+            return best;
+        }
+
+        private int firstOnTheWay(int set) {
+            for (int house = 0; house < count; house++) {
+                if (steps[afterKnock(set, house)] < steps[set]) {
+                    return house;
+                }
+            }
+            return 0;
+        }
+
+        private int afterKnock(int set, int knocked) {
+            int next = 0;
+            for (int house = 0; house < count; house++) {
+                if (house != knocked && (set >> house & 1) == 1) {
+                    next |= beside[house];
+                }
+            }
+            return next;
         }
     }
 
@@ -1403,98 +1492,6 @@ public final class StoneCensus {
         }
     }
 
-    /** The knocks by which he is found who moves each night; where he may be is a set of houses. */
-    private static final class Hunt {
-        final int[] beside = new int[MOST_HOUSES];
-        final int[] steps = new int[1 << MOST_HOUSES];
-        final int[] knocks = new int[MOST_LYING];
-        int count;
-
-        void look(Sheet sheet) {
-            count = sheet.count;
-            for (int house = 0; house < count; house++) {
-                int below = NONE;
-                int above = NONE;
-                for (int other = 0; other < count; other++) {
-                    if (isBefore(sheet, other, house) && (below == NONE || isBefore(sheet, below, other))) {
-                        below = other;
-                    }
-                    if (isBefore(sheet, house, other) && (above == NONE || isBefore(sheet, other, above))) {
-                        above = other;
-                    }
-                }
-                beside[house] = bitOf(below) | bitOf(above);
-                if (count == 1) {
-                    beside[house] = bitOf(house);
-                }
-            }
-        }
-
-        private static boolean isBefore(Sheet sheet, int one, int other) {
-            int apart = sheet.places[one] - sheet.places[other];
-            return apart < 0 || apart == 0 && one < other;
-        }
-
-        private static int bitOf(int house) {
-            return house == NONE ? 0 : 1 << house;
-        }
-
-        int plan() {
-            countSteps();
-            int maybe = (1 << count) - 1;
-            int used = 0;
-            while (maybe != 0 && used < MOST_LYING) {
-                int house = firstOnTheWay(maybe);
-                knocks[used] = house;
-                used++;
-                maybe = afterKnock(maybe, house);
-            }
-            return used;
-        }
-
-        /** How many knocks each set needs; each pass knows at least the sets that need one more. */
-        private void countSteps() {
-            Arrays.fill(steps, FAR);
-            steps[0] = 0;
-            boolean changed = true;
-            for (int pass = 0; pass < 1 << MOST_HOUSES && changed; pass++) {
-                changed = false;
-                for (int set = 1; set < 1 << count; set++) {
-                    int best = fewestFrom(set);
-                    changed |= best < steps[set];
-                    steps[set] = best;
-                }
-            }
-        }
-
-        private int fewestFrom(int set) {
-            int best = steps[set];
-            for (int house = 0; house < count; house++) {
-                best = Math.min(best, steps[afterKnock(set, house)] + 1);
-            }
-            return best;
-        }
-
-        private int firstOnTheWay(int set) {
-            for (int house = 0; house < count; house++) {
-                if (steps[afterKnock(set, house)] < steps[set]) {
-                    return house;
-                }
-            }
-            return 0;
-        }
-
-        private int afterKnock(int set, int knocked) {
-            int next = 0;
-            for (int house = 0; house < count; house++) {
-                if (house != knocked && (set >> house & 1) == 1) {
-                    next |= beside[house];
-                }
-            }
-            return next;
-        }
-    }
-
     /** What was told of houses together, and when. */
     private static final class Reports {
         final int[] sets = new int[MOST_REPORTS];
@@ -1538,6 +1535,37 @@ public final class StoneCensus {
         }
     }
 
+    /** While houses are gone through one by one: the heads of all sets of those before, and which sets are told of. */
+    private static final class Sums {
+        /** By set: its heads together. */
+        final int[] heads = new int[1 << MOST_HOUSES];
+        /** By the last house of a set that is told of: the others of it. */
+        final int[][] rests = new int[MOST_HOUSES][1 << MOST_HOUSES - 1];
+        final int[] restCounts = new int[MOST_HOUSES];
+
+        /** Takes the sets that are told of, a bit each; answers the first house from which on none is the last of one. */
+        int list(int told, int houses) {
+            int firstFree = 0;
+            for (int house = 0; house < houses; house++) {
+                restCounts[house] = 0;
+                for (int rest = 0; rest < 1 << house; rest++) {
+                    if ((told >> (rest | 1 << house) & 1) == 1) {
+                        rests[house][restCounts[house]] = rest;
+                        restCounts[house]++;
+                        firstFree = house + 1;
+                    }
+                }
+            }
+            return firstFree;
+        }
+
+        void setHeads(int house, int number) {
+            for (int rest = 0; rest < 1 << house; rest++) {
+                heads[rest | 1 << house] = heads[rest] + number;
+            }
+        }
+    }
+
     /** The rows by which all reports that count are so; kept until others count. */
     private static final class Truths {
         static final int MOST_CODES = 4096;
@@ -1546,10 +1574,7 @@ public final class StoneCensus {
         final int[][] tally = new int[MOST_HOUSES][MOST_HEADS + 1];
         final int[] lows = new int[1 << MOST_HOUSES];
         final int[] highs = new int[1 << MOST_HOUSES];
-        final int[] sums = new int[1 << MOST_HOUSES];
-        /** By the last house of a set that is told of: the others of it. */
-        final int[][] rests = new int[MOST_HOUSES][1 << MOST_HOUSES - 1];
-        final int[] restCounts = new int[MOST_HOUSES];
+        final Sums sums = new Sums();
         final int[] codes = new int[MOST_CODES];
         final int[] stamps = new int[MOST_CODES];
         int codeCount;
@@ -1576,8 +1601,7 @@ public final class StoneCensus {
             mask = counting;
             houses = count;
             telling = NONE;
-            takeReports(reports);
-            listRests();
+            firstFree = sums.list(takeReports(reports), houses);
             for (int house = 0; house < MOST_HOUSES; house++) {
                 Arrays.fill(tally[house], 0);
             }
@@ -1588,7 +1612,9 @@ public final class StoneCensus {
             }
         }
 
-        private void takeReports(Reports reports) {
+        /** Answers the sets that are told of, a bit each. */
+        private int takeReports(Reports reports) {
+            int told = 0;
             Arrays.fill(lows, 0);
             Arrays.fill(highs, MOST_TOGETHER);
             for (int report = 0; report < reports.count; report++) {
@@ -1596,23 +1622,10 @@ public final class StoneCensus {
                     int set = reports.sets[report];
                     lows[set] = Math.max(lows[set], reports.leasts[report]);
                     highs[set] = Math.min(highs[set], reports.mosts[report]);
+                    told |= 1 << set;
                 }
             }
-        }
-
-        private void listRests() {
-            firstFree = 0;
-            for (int house = 0; house < houses; house++) {
-                restCounts[house] = 0;
-                for (int rest = 0; rest < 1 << house; rest++) {
-                    int set = rest | 1 << house;
-                    if (lows[set] > 0 || highs[set] < MOST_TOGETHER) {
-                        rests[house][restCounts[house]] = rest;
-                        restCounts[house]++;
-                        firstFree = house + 1;
-                    }
-                }
-            }
+            return told;
         }
 
         /** With the sums of the houses before this one set. */
@@ -1623,7 +1636,7 @@ public final class StoneCensus {
             for (int heads = lowest(house); heads <= high; heads++) {
                 int found = ways;
                 if (house + 1 < firstFree) {
-                    setHeads(house, heads);
+                    sums.setHeads(house, heads);
                     found = countFrom(house + 1);
                 }
                 tallied[heads] += found;
@@ -1634,26 +1647,20 @@ public final class StoneCensus {
 
         private int lowest(int house) {
             int low = 0;
-            for (int i = 0; i < restCounts[house]; i++) {
-                int rest = rests[house][i];
-                low = Math.max(low, lows[rest | 1 << house] - sums[rest]);
+            for (int i = 0; i < sums.restCounts[house]; i++) {
+                int rest = sums.rests[house][i];
+                low = Math.max(low, lows[rest | 1 << house] - sums.heads[rest]);
             }
             return low;
         }
 
         private int highest(int house) {
             int high = MOST_HEADS;
-            for (int i = 0; i < restCounts[house]; i++) {
-                int rest = rests[house][i];
-                high = Math.min(high, highs[rest | 1 << house] - sums[rest]);
+            for (int i = 0; i < sums.restCounts[house]; i++) {
+                int rest = sums.rests[house][i];
+                high = Math.min(high, highs[rest | 1 << house] - sums.heads[rest]);
             }
             return high;
-        }
-
-        private void setHeads(int house, int heads) {
-            for (int rest = 0; rest < 1 << house; rest++) {
-                sums[rest | 1 << house] = sums[rest] + heads;
-            }
         }
 
         int fewestIn(int house) {
@@ -1728,7 +1735,7 @@ public final class StoneCensus {
             int high = highest(house);
             for (int heads = lowest(house); heads <= high; heads++) {
                 if (house + 1 < firstFree) {
-                    setHeads(house, heads);
+                    sums.setHeads(house, heads);
                 }
                 gatherFrom(house + 1, code | heads << 3 * house);
             }
@@ -1762,10 +1769,7 @@ public final class StoneCensus {
     private static final class Liars {
         /** By set and the heads of it together: how many reports are not so. */
         final int[][] against = new int[1 << MOST_HOUSES][MOST_TOGETHER + 1];
-        final int[] sums = new int[1 << MOST_HOUSES];
-        /** By the last house of a set that is told of: the others of it. */
-        final int[][] rests = new int[MOST_HOUSES][1 << MOST_HOUSES - 1];
-        final int[] restCounts = new int[MOST_HOUSES];
+        final Sums sums = new Sums();
         /** By house: how many at least are not so of the sets whose last house is that or a later one. */
         final int[] owed = new int[MOST_HOUSES + 1];
         final int[] tried = new int[MOST_HOUSES];
@@ -1789,12 +1793,14 @@ public final class StoneCensus {
             for (int set = 0; set < 1 << MOST_HOUSES; set++) {
                 Arrays.fill(against[set], 0);
             }
-            takeReports(reports);
+            sums.list(takeReports(reports), houses);
+            countOwed();
             fewest = Integer.bitCount(mask) + 1;
             searchFrom(0, 0);
         }
 
-        private void takeReports(Reports reports) {
+        /** Answers the sets that are told of, a bit each. */
+        private int takeReports(Reports reports) {
             int told = 0;
             for (int report = 0; report < reports.count; report++) {
                 if ((mask >> report & 1) == 1) {
@@ -1807,21 +1813,15 @@ public final class StoneCensus {
                     }
                 }
             }
-            listRests(told);
+            return told;
         }
 
-        private void listRests(int told) {
+        private void countOwed() {
             owed[houses] = 0;
             for (int house = houses - 1; house >= 0; house--) {
                 owed[house] = owed[house + 1];
-                restCounts[house] = 0;
-                for (int rest = 0; rest < 1 << house; rest++) {
-                    int set = rest | 1 << house;
-                    if ((told >> set & 1) == 1) {
-                        rests[house][restCounts[house]] = rest;
-                        restCounts[house]++;
-                        owed[house] += leastAgainst(set);
-                    }
+                for (int i = 0; i < sums.restCounts[house]; i++) {
+                    owed[house] += leastAgainst(sums.rests[house][i] | 1 << house);
                 }
             }
         }
@@ -1849,7 +1849,7 @@ public final class StoneCensus {
                 int more = againstWith(house, heads);
                 tried[house] = heads;
                 if (wrong + more + owed[house + 1] < fewest) {
-                    setHeads(house, heads);
+                    sums.setHeads(house, heads);
                     searchFrom(house + 1, wrong + more);
                 }
             }
@@ -1857,17 +1857,11 @@ public final class StoneCensus {
 
         private int againstWith(int house, int heads) {
             int more = 0;
-            for (int i = 0; i < restCounts[house]; i++) {
-                int rest = rests[house][i];
-                more += against[rest | 1 << house][sums[rest] + heads];
+            for (int i = 0; i < sums.restCounts[house]; i++) {
+                int rest = sums.rests[house][i];
+                more += against[rest | 1 << house][sums.heads[rest] + heads];
             }
             return more;
-        }
-
-        private void setHeads(int house, int heads) {
-            for (int rest = 0; rest < 1 << house; rest++) {
-                sums[rest | 1 << house] = sums[rest] + heads;
-            }
         }
     }
 }

@@ -254,6 +254,50 @@ public final class ModelTest {
         }
     }
 
+    /** Up to thirty reports, most of them so by one row: few truths, and few liars, are left by all of them. */
+    private void runReports(int houses) {
+        StringBuilder text = new StringBuilder();
+        int[] row = new int[houses];
+        for (int h = 0; h < houses; h++) {
+            text.append("house ").append((char) ('a' + h)).append(" at 1 heads 1;");
+            row[h] = below(8);
+        }
+        tell(text.toString());
+        int liarsIn = 2 + below(20);
+        int wide = 1 + below(12);
+        for (int i = 0; i < 31 && !failed; i++) {
+            int set = 1 + below((1 << houses) - 1);
+            int sum = 0;
+            for (int h = 0; h < houses; h++) {
+                sum += (set >> h & 1) * row[h];
+            }
+            int least = oneIn(liarsIn) ? below(7 * Integer.bitCount(set) + 1) : Math.max(0, sum - below(wide));
+            int most = Math.min(35, Math.max(least, sum + below(wide)));
+            same("report " + set + " " + least + " " + most, x.report(set, least, most), m.report(set, least, most));
+            if (oneIn(4)) {
+                same("later", x.later(1), m.later(1));
+            }
+            int k = oneIn(3) ? when() : m.about(6);
+            same("truths " + k, x.truths(k), m.truths(k));
+            same("liars " + k, x.liars(k), m.liars(k));
+            for (int h = 0; h < houses; h++) {
+                same("lies " + h, x.lies(h), m.lies(h));
+            }
+            for (int what = 0; what < 2; what++) {
+                int h = below(houses);
+                same("tells " + what + " " + k, x.tells(what, k), m.tells(what, k));
+                same("knock " + what + " " + k, x.knock(what, k), m.knock(what, k));
+                same("range " + h + " " + what + " " + k, x.range(h, what, k), m.range(h, what, k));
+                int heads = oneIn(2) ? row[h] : below(8);
+                same("odds " + h + " " + heads + " " + what + " " + k, x.odds(h, heads, what, k), m.odds(h, heads, what, k));
+            }
+            if (oneIn(6)) {
+                int r = below(i + 1);
+                same("untell " + r, x.untell(r), m.untell(r));
+            }
+        }
+    }
+
     private static void allMarks() {
         StoneCensus x = new StoneCensus();
         for (int a = -1; a <= 61; a += 3) {
@@ -280,6 +324,8 @@ public final class ModelTest {
             test.run(new DrawnTexts(test.draws), 400);
             ModelTest texts = new ModelTest(1000000 + seed);
             texts.runTexts(new DrawnTexts(texts.draws), 400);
+            ModelTest reports = new ModelTest(2000000 + seed);
+            reports.runReports(1 + seed % 5);
         }
         System.out.println(calls + " answers compared, " + wrong + " runs wrong");
         if (wrong != 0) {

@@ -97,6 +97,41 @@ public final class ReportsTest {
         check.due("left at 8", x.knock(1, 8), 2);
     }
 
+    /** Of each set but one that it is not full, and of all that it is not empty: counted here row by row. */
+    private static void allSets() {
+        StoneCensus x = houses(5);
+        for (int set = 2; set < 32; set++) {
+            x.report(set, set == 31 ? 1 : 0, 7 * Integer.bitCount(set) - 1);
+        }
+        int want = 0;
+        for (int row = 1; row < 32768; row++) {
+            boolean so = true;
+            for (int house = 1; house < 5; house++) {
+                so &= (row >> 3 * house & 7) != 7;
+            }
+            want += so ? 1 : 0;
+        }
+        check.due("truths of thirty reports", x.truths(0), want);
+        check.due("liars of thirty reports", x.liars(0), 0);
+        check.lying("the first row", x, 0, 0, 0, 0, 1);
+        check.due("the most", x.range(0, 1, 0), 7);
+        check.due("the most", x.range(4, 1, 0), 6);
+        check.due("tells", x.tells(1, 0), 31);
+        check.due("knock", x.knock(0, 0), 0);
+        check.due("left", x.knock(1, 0), 7 * 7 * 7 * 7);
+        x = houses(1);
+        x.report(1, 1, 35);
+        check.due("from 1 on", x.truths(0), 7);
+        x.report(1, 7, 35);
+        check.due("7", x.range(0, 0, 0), 7);
+        check.due("7", x.range(0, 1, 0), 7);
+        x.report(1, 0, 0);
+        check.due("0 and 7", x.range(0, 0, 0), NONE);
+        x.untell(1);
+        x.untell(0);
+        check.due("0", x.range(0, 1, 0), 0);
+    }
+
     private static void truthsAndRanges() {
         StoneCensus x = houses(2);
         check.due("all rows", x.truths(0), 64);
@@ -185,6 +220,15 @@ public final class ReportsTest {
         x.liars(0);
         check.lying("liars", x, 0, 7);
         check.due("odds", x.odds(1, 7, 1, 0), 1);
+        x = houses(5);
+        x.report(4, 0, 0);
+        x.report(4, 7, 7);
+        check.due("one of two", x.liars(0), 1);
+        Texts.tell(x, "house a at 0 heads 1;house b at 0 heads 1;");
+        x.report(1, 5, 5);
+        x.report(2, 0, 0);
+        check.due("no liars", x.liars(0), 0);
+        check.lying("liars", x, 5, 0);
     }
 
     private static void knocking() {
@@ -265,6 +309,7 @@ public final class ReportsTest {
         untelling();
         laterOn();
         knownInTwoTimes();
+        allSets();
         truthsAndRanges();
         lying();
         toldAnew();

@@ -63,7 +63,7 @@ public final class RoomTest {
     }
 
     /** Call i of a run in which each kind of call comes again and again, with other arguments. */
-    private static long call(StoneCensus x, int i, String text) {
+    private static long call(StoneCensus x, int i) {
         switch (i % 24) {
             case 0: return x.summer();
             case 1: return x.will(i % 5, 60);
@@ -112,7 +112,7 @@ public final class RoomTest {
         }
         Runnable run = () -> {
             for (int i = 0; i < 512; i++) {
-                answers[0] += call(x, i, text);
+                answers[0] += call(x, i);
             }
         };
         Runnable reading = () -> {

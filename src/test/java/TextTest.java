@@ -155,10 +155,14 @@ public final class TextTest {
         faultOf("house  \n", 2, 8);
         faultOf("house a", 2, 7);
         faultOf("house 1 at 1 heads 1;", 2, 6);
-        faultOf("house heads at 1 heads 1;", 2, 6);
-        faultOf("house year at 1 heads 1;", 2, 6);
-        faultOf("house or at 1 heads 1;", 2, 6);
-        faultOf("house line at 1 heads 1;", 0, NONE);
+        String reserved = "house at heads jam habit spit tax grow draw or and not hidden stones year";
+        for (String word : reserved.split(" ")) {
+            faultOf("house " + word + " at 1 heads 1;", 2, 6);
+            faultOf("house " + word + "x at 1 heads 1;", 0, NONE);
+        }
+        for (String word : "province line name e both one sum term unit n z".split(" ")) {
+            faultOf("house " + word + " at 1 heads 1;", 0, NONE);
+        }
         faultOf("house a at heads 1;", 2, 11);
         faultOf("house a heads 1;", 2, 8);
         faultOf("house a at 1 jam 1;", 2, 13);
