@@ -58,6 +58,9 @@ public final class FaceTest {
             }
         }
         expect("the methods are " + due + ", not " + open, due.equals(open));
+        for (Method m : c.getDeclaredMethods()) {
+            expect(m.getName() + " is no other method's name", Modifier.isPublic(m.getModifiers()) || !names.contains(m.getName()));
+        }
         for (Constructor<?> k : c.getDeclaredConstructors()) {
             expect("one public constructor", Modifier.isPublic(k.getModifiers()) && k.getParameterCount() == 0);
         }
