@@ -188,6 +188,49 @@ public final class ActsEdgesTest {
         }
     }
 
+    /** The laws go by the numbers of the house itself: five houses, each with others. */
+    private static void lawsOfEachHouse() {
+        StringBuilder text = new StringBuilder();
+        for (int i = 0; i < 5; i++) {
+            text.append("house ").append((char) ('a' + i)).append(" at ").append(i).append(" heads ").append(i + 2);
+            text.append(" jam ").append(9 - i).append(" habit ").append(2 * i).append(';');
+        }
+        String[] words = {"heads", "hidden", "jam", "habit"};
+        for (int word = 0; word < words.length; word++) {
+            StoneCensus spit = Texts.told(text + "spit " + words[word] + ";tax jam*100+stones;");
+            StoneCensus grow = Texts.told(text + "grow (" + words[word] + ">4)-(stones>9);");
+            for (int house = 0; house < 5; house++) {
+                spit.hide(house, 4 * house % 7 % (house + 3));
+                grow.hide(house, 4 * house % 7 % (house + 3));
+            }
+            grow.summer();
+            for (int house = 0; house < 5; house++) {
+                int hidden = 4 * house % 7 % (house + 3);
+                int[] values = {house + 2, hidden, 9 - house, 2 * house};
+                check.due("spit by " + words[word] + " of " + house, spit.house(house, 6), values[word]);
+                check.due("tax of " + house, spit.house(house, 9), (9 - house) * 100 + values[word]);
+                int stones = grow.house(house, 3);
+                check.due("stones of " + house, stones, house + 2 - hidden + 2 * house);
+                int more = (values[word] > 4 ? 1 : 0) - (stones > 9 ? 1 : 0);
+                check.due("grow by " + words[word] + " of " + house, grow.house(house, 1), Math.min(7, house + 2 + more));
+            }
+        }
+    }
+
+    /** "30 in one e": one with as many numbers that wait for their operators as can be. */
+    private static void manyThatWait() {
+        String e = "2";
+        for (int i = 0; i < 4; i++) {
+            e = "0 or 1 and 1<1+1*(" + e + ")";
+        }
+        // 0 or 1 and (1 < 1 + 2) is 1; then 1 < 1 + 1 and so on.
+        small(e, 1);
+        small("0 or 1 and 0<" + "1+1*(".repeat(6) + "2" + ")".repeat(6), 1);
+        small("1+1*(".repeat(7) + "2" + ")".repeat(7), 9);
+        small("1+2*(".repeat(4) + "2" + ")".repeat(4), 15 + 32);
+        small("9-(".repeat(7) + "2" + ")".repeat(7), 7);
+    }
+
     /** Promise 6: "NONE if there is none such, or for another what"; promise 7: "NONE for another what". */
     private static void askedWrongly() {
         StoneCensus x = Texts.told("house a at 9 heads 6 jam 3 habit 4;house b at 60 heads 7 jam 9 habit 9;");
@@ -281,6 +324,17 @@ public final class ActsEdgesTest {
             check.due("none any more", x.hide(0, 0), heads);
             check.due("acts", x.about(3), heads + 2);
         }
+        StoneCensus x = Texts.told(houses(5, 7));
+        for (int house = 0; house < 5; house++) {
+            check.due("hide", x.hide(house, house + 1), 0);
+        }
+        for (int house = 4; house >= 0; house--) {
+            check.due("how many were", x.hide(house, 7), house + 1);
+        }
+        check.due("all are hidden", x.sum(1), 35);
+        check.due("and spit nothing", x.summer(), 0);
+        check.due("all bowls", x.bowls(0), 0);
+        check.due("all bowls missed", x.missed(0), 31);
     }
 
     /** Promise 12: "Stones (1 .. 99) are stolen: the BOWL then; NONE, doing nothing, if there are not so many". */
@@ -295,8 +349,16 @@ public final class ActsEdgesTest {
                 check.due("acts", x.about(3), can ? 2 : 1);
             }
         }
-        StoneCensus x = Texts.told(houses(1, 7));
+        StoneCensus x = Texts.told(houses(5, 7) + "draw 999;");
         check.due("before a summer", x.steal(0, 1), NONE);
+        x.summer();
+        for (int house = 0; house < 5; house++) {
+            check.due("steal", x.steal(house, house + 1), 6 - house);
+        }
+        for (int house = 0; house < 5; house++) {
+            check.due("what is left", x.house(house, 3), 6 - house);
+            check.due("heads are there still", x.house(house, 1), 7);
+        }
     }
 
     /** Draws with which the magpie takes 0, 1 or 2: all of them, and all numbers of houses; the bowls have 0 to 3 stones. */
@@ -421,6 +483,29 @@ public final class ActsEdgesTest {
         }
     }
 
+    /** The first ACT of all taken back: all is as told; and the first behind an image, all is as kept. */
+    private static void undoOfTheFirst() {
+        for (int sort : new int[] {0, 1, 2, 3, 5}) {
+            StoneCensus x = Texts.told(houses(2, 4) + "draw 5;grow 1;");
+            x.will(0, 3);
+            String first = row(x);
+            act(x, sort);
+            check.due("the act is seen", row(x).equals(first), false);
+            check.due("undo", x.undo(), true);
+            check.due("as told", row(x).equals(first), true);
+            check.due("undo of none", x.undo(), false);
+            x.summer();
+            x.image(0);
+            String kept = row(x);
+            x.back(0);
+            x.will(0, 3);
+            act(x, sort);
+            check.due("undo", x.undo(), true);
+            check.due("as kept", row(x).equals(kept), true);
+            check.due("undo of none", x.undo(), false);
+        }
+    }
+
     /** "40 at most are kept, the oldest go." */
     private static void fortyActs() {
         for (int acts : new int[] {0, 1, 39, 40, 41, 42, 80, 81, 82, 123}) {
@@ -511,6 +596,8 @@ public final class ActsEdgesTest {
         dividing();
         truthsOfLaws();
         whatLawsAreBy();
+        lawsOfEachHouse();
+        manyThatWait();
         askedWrongly();
         comingAndGoing();
         moving();
@@ -521,6 +608,7 @@ public final class ActsEdgesTest {
         growing();
         summersAtTheEnd();
         undoOfEachSort();
+        undoOfTheFirst();
         fortyActs();
         actsAmongUndone();
         foreseeing();

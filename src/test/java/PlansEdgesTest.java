@@ -338,6 +338,12 @@ public final class PlansEdgesTest {
             }
         }
         check.due("one too many", x.draft(1, 7), NONE);
+        for (int house = 0; house < 5; house++) {
+            full.hide(house, 7);
+        }
+        for (int n = 0; n <= 35; n++) {
+            check.due("hidden ones are drafted alike", full.draft(4, n), n / 5);
+        }
         check.due("without houses", new StoneCensus().draft(0, 0), NONE);
     }
 
@@ -431,6 +437,45 @@ public final class PlansEdgesTest {
         marksOf(0, 0, -1, NONE);
     }
 
+    /** What was worked out for a province with more houses is not there in the next. */
+    private static void fewerHouses() {
+        StoneCensus x = Bowls.at(new int[] {5, 4, 3, 2, 1}, new int[] {1, 1, 1, 1, 1});
+        check.due("leave of five", x.leave(9999), NONE);
+        check.due("rounds of five: a, b with c, d with e", x.rounds(6), 3);
+        check.due("chase of five", x.chase(), 6);
+        for (int n = 1; n <= 5; n++) {
+            check.due("stone of five by " + n, x.stone(n, 0) >= 0, true);
+            check.due("stone of five by " + n, x.stone(n, 1) >= 0, true);
+        }
+        check.due("loss of five", x.loss(0), NONE);
+        check.due("truths of five", x.truths(0), 32768);
+        check.due("knock of five", x.knock(1, 0), 4096);
+        Texts.tell(x, "house a at 0 heads 5;house b at 1 heads 5;");
+        check.due("a summer", x.summer(), 10);
+        leaveOf(x, 9, 1, 0, 1);
+        leaveOf(x, 0, 10, 5, 5);
+        check.due("least", x.least(), 0);
+        roundsBy(x, 11, 1, 0, 0);
+        roundsBy(x, 10, 2, 0, 1);
+        roundsBy(x, 5, NONE);
+        check.due("stone of two", x.stone(2, 0), 0);
+        check.due("stone of two", x.stone(1, 0), 0b10);
+        check.due("loss of two", x.loss(0), NONE);
+        check.due("draft of two", x.draft(1, 3), 1);
+        check.due("chase of two", x.chase(), 2);
+        check.lying("chase of two", x, 0, 0);
+        check.due("truths of two", x.truths(0), 64);
+        check.due("knock of two", x.knock(1, 0), 8);
+        x.province();
+        check.due("leave of none", x.leave(0), 0);
+        check.due("rounds of none", x.rounds(0), 0);
+        check.due("noon of none", x.noon(1), NONE);
+        check.due("chase of none", x.chase(), NONE);
+        check.due("stone of none", x.stone(1, 0), 0);
+        check.due("missed of none", x.missed(0), 0);
+        check.due("truths of none", x.truths(0), 1);
+    }
+
     /** Promise 31: "The i-th number of what lies there; NONE if there is none such", by each call that lays something. */
     private static void whatLies() {
         StoneCensus x = Texts.told("house a at 0 heads 1;house b at 1 heads 2;house c at 2 heads 3;");
@@ -475,6 +520,7 @@ public final class PlansEdgesTest {
         drafts();
         chases();
         marks();
+        fewerHouses();
         whatLies();
         check.finish();
     }

@@ -234,6 +234,32 @@ public final class TextEdgesTest {
         }
     }
 
+    /** A word that is one letter off, one longer or one shorter stands for nothing here: it is a NAME, and no line's first word. */
+    private static void wordsNearby() {
+        String reserved = " house at heads jam habit spit tax grow draw or and not hidden stones year ";
+        for (String word : reserved.trim().split(" ")) {
+            for (int i = 0; i < word.length(); i++) {
+                char other = word.charAt(i) == 'z' ? 'y' : 'z';
+                String near = word.substring(0, i) + other + word.substring(i + 1);
+                nearby(near);
+                nearby(word.substring(0, i) + word.substring(i + 1));
+                nearby(word.substring(0, i) + word.charAt(i) + word.substring(i));
+            }
+        }
+    }
+
+    private static void nearby(String word) {
+        if (!word.isEmpty()) {
+            fine("house " + word + " at 1 heads 1;", 1);
+            faultOf(word + " 1;", 2, 0);
+            faultOf("spit " + word + ";", 2, 5);
+            faultOf("spit 1 " + word + " 1;", 2, 7);
+            faultOf("house a " + word + " 1 heads 1;", 2, 8);
+            faultOf("house a at 1 " + word + " 1;", 2, 13);
+            faultOf("house a at 1 heads 1 " + word + " 1;", 2, 21);
+        }
+    }
+
     /** "spit e": which words are units there; a NAME or another word is none. */
     private static void unitsThatCanBe() {
         for (String word : "heads hidden jam habit stones year 0 9999 (1)".split(" ")) {
@@ -494,6 +520,30 @@ public final class TextEdgesTest {
         check.due("two heads", x.house(0, 1), 2);
     }
 
+    /** Text after text on one object, each with all that can be told once, and laws as long as can be. */
+    private static void textAfterText() {
+        StoneCensus x = new StoneCensus();
+        for (int i = 0; i < 12; i++) {
+            String thirty = i + "+1".repeat(29);
+            String text = houses(5) + "spit " + thirty + ";tax stones+" + i + "+2".repeat(28) + ";grow 0-" + i % 3 + ";draw " + 83 * i + ";";
+            check.due("text " + i, Texts.tell(x, text), 5);
+            check.due("units", x.about(8), 30 + 30 + 2);
+            check.due("the seed", x.about(2), 83 * i);
+            check.due("stones", x.house(4, 6), i + 29);
+            check.due("tax", x.house(4, 9), i + 29 + i + 56);
+            check.due("growth", x.will(4, 1), Math.max(0, 1 - i % 3));
+            if (i % 4 == 3) {
+                check.due("a text between that tells nothing", x.province(), 0);
+                check.due("no units", x.about(8), 0);
+            }
+            if (i % 5 == 4) {
+                check.due("a fault between", Texts.tell(x, "spit 1;tax 2;draw 3;house z at 1 heads 1;draw 3;"), NONE);
+                check.due("its place", x.fault(1), 41);
+                check.due("all stays", x.about(8), 62);
+            }
+        }
+    }
+
     public static void main(String[] args) {
         everyByteAlone();
         everyByteBetween();
@@ -504,6 +554,7 @@ public final class TextEdgesTest {
         howMany();
         partsOfALine();
         names();
+        wordsNearby();
         unitsThatCanBe();
         unitsTooMany();
         depths();
@@ -514,6 +565,7 @@ public final class TextEdgesTest {
         ending();
         latestFault();
         toldOverAnother();
+        textAfterText();
         check.finish();
     }
 }
