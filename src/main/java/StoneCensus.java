@@ -785,26 +785,25 @@ public final class StoneCensus {
             at = 0;
             advance();
             for (int line = 0; line < MOST_BYTES && kind != END; line++) {
-                readLine(sheet);
+                if (isWord("house")) {
+                    readHouse(sheet);
+                } else if (isWord("draw")) {
+                    readDraw(sheet);
+                } else {
+                    readLaw(lawNamed(sheet));
+                }
+                takeSign(';');
             }
             return fault == 0;
         }
 
-        private void readLine(Sheet sheet) {
-            if (isWord("house")) {
-                readHouse(sheet);
-            } else if (isWord("spit")) {
-                readLaw(sheet.spit);
+        private Formula lawNamed(Sheet sheet) {
+            if (isWord("spit")) {
+                return sheet.spit;
             } else if (isWord("tax")) {
-                readLaw(sheet.tax);
-            } else if (isWord("grow")) {
-                readLaw(sheet.grow);
-            } else if (isWord("draw")) {
-                readDraw(sheet);
-            } else {
-                refuse(FAULT_PLACE);
+                return sheet.tax;
             }
-            takeSign(';');
+            return isWord("grow") ? sheet.grow : null;
         }
 
         private void readHouse(Sheet sheet) {
@@ -829,8 +828,9 @@ public final class StoneCensus {
         }
 
         private void readLaw(Formula law) {
-            if (law.told) {
+            if (law == null || law.told) {
                 refuse(FAULT_PLACE);
+                return;
             }
             law.told = true;
             advance();
